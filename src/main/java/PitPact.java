@@ -1,6 +1,6 @@
 /**
  * Pits that close by a pact: men, rules told as texts, moves, water, plans, votes, harms, towns.
- * Names follow the words of the document (DOC.md); numbers in brackets are its promises.
+ * Names follow the words of the document (DOC.md).
  */
 public final class PitPact {
     public static final int UNKNOWN = -1, OUTSIDE = -2, STATE = -3, FULL = -4, NO = -5, NONE = -6;
@@ -1170,20 +1170,17 @@ public final class PitPact {
 
     /** PRICES, one PLAN at a time, and the search for THE BEST one. */
     private static final class Plans {
-        /** Costs are held by ROWS and, behind these, all ROWS together. */
-        private static final int ALL = ROWS, COLUMNS = ROWS + 1, CHOICES = PLAN_YEARS + 1;
-        /** Above every WORST, small enough for three of it. */
-        private static final int ABOVE_ALL = 500000000;
+        private static final int CHOICES = PLAN_YEARS + 1;
 
         private final int[][] prices = new int[ROWS][PLAN_YEARS];
         private final int[] tons = new int[MOST_PITS];
         private final boolean[] open = new boolean[MOST_PITS];
-        /** What a PIT costs in all, if it is closed from a year on: at PIT times CHOICES and year. */
-        private final int[][] costs = new int[MOST_PITS * CHOICES][COLUMNS];
-        /** The least that PITS from one on can cost, by columns. */
-        private final int[][] leastFrom = new int[MOST_PITS + 1][COLUMNS];
-        /** What PITS ahead of one cost in the PLAN at hand, by columns. */
-        private final int[][] paidAhead = new int[MOST_PITS + 1][COLUMNS];
+        /** What a PIT costs by a ROW, if it is closed from a year on: at PIT times CHOICES and year. */
+        private final int[][] costs = new int[MOST_PITS * CHOICES][ROWS];
+        /** The least that PITS from one on can cost together, by ROWS. */
+        private final int[][] leastFrom = new int[MOST_PITS + 1][ROWS];
+        /** What PITS ahead of one cost together in the PLAN at hand, by ROWS. */
+        private final int[][] paidAhead = new int[MOST_PITS + 1][ROWS];
         private final int[] years = new int[MOST_PITS];
         private final int[] closings = new int[CHOICES];
         private int count;
@@ -1217,14 +1214,12 @@ public final class PitPact {
             }
         }
 
-        private void fillCosts(int[] row, Pit pit, int closedFrom, int burden) {
-            row[ALL] = 0;
+        private void fillCosts(int[] byRow, Pit pit, int closedFrom, int burden) {
             for (int r = 0; r < ROWS; r++) {
-                row[r] = 0;
+                byRow[r] = 0;
                 for (int t = 0; t < span; t++) {
-                    row[r] += t < closedFrom ? pit.tons * Math.max(0, pit.cost - prices[r][t]) : burden;
+                    byRow[r] += t < closedFrom ? pit.tons * Math.max(0, pit.cost - prices[r][t]) : burden;
                 }
-                row[ALL] += row[r];
             }
         }
 
@@ -1309,24 +1304,24 @@ public final class PitPact {
             if (wonAtLast < owed) {
                 return false;
             }
-            bestWorst = ABOVE_ALL;
+            bestWorst = Integer.MAX_VALUE;
             fillLeast();
-            for (int c = 0; c < COLUMNS; c++) {
-                paidAhead[0][c] = 0;
+            for (int r = 0; r < ROWS; r++) {
+                paidAhead[0][r] = 0;
             }
             choose(0);
             return true;
         }
 
         private void fillLeast() {
-            for (int c = 0; c < COLUMNS; c++) {
-                leastFrom[count][c] = 0;
+            for (int r = 0; r < ROWS; r++) {
+                leastFrom[count][r] = 0;
                 for (int p = count - 1; p >= 0; p--) {
-                    int least = costs[p * CHOICES][c];
+                    int least = costs[p * CHOICES][r];
                     for (int year = 1; year <= lastChoice(p); year++) {
-                        least = Math.min(least, costs[p * CHOICES + year][c]);
+                        least = Math.min(least, costs[p * CHOICES + year][r]);
                     }
-                    leastFrom[p][c] = leastFrom[p + 1][c] + least;
+                    leastFrom[p][r] = leastFrom[p + 1][r] + least;
                 }
             }
         }
@@ -1345,8 +1340,8 @@ public final class PitPact {
             for (int year = 0; year <= lastChoice(pit); year++) {
                 if (mayClose(pit, year)) {
                     years[pit] = year;
-                    for (int c = 0; c < COLUMNS; c++) {
-                        paidAhead[pit + 1][c] = paidAhead[pit][c] + costs[pit * CHOICES + year][c];
+                    for (int r = 0; r < ROWS; r++) {
+                        paidAhead[pit + 1][r] = paidAhead[pit][r] + costs[pit * CHOICES + year][r];
                     }
                     if (mayBeBetter(pit + 1)) {
                         closeFrom(pit, year);
@@ -1363,8 +1358,7 @@ public final class PitPact {
                     return false;
                 }
             }
-            // all ROWS below the best are together no more than ROWS times one less than it
-            return paidAhead[nextPit][ALL] + leastFrom[nextPit][ALL] <= ROWS * (bestWorst - 1);
+            return true;
         }
 
         private void keepAsBest() {

@@ -482,6 +482,7 @@ public final class PitPactPromises {
         due("ten, asked for a man", x.move(0, 3), PitPact.NO);
         due("UNKNOWN ahead of NO", x.move(0, 10), PitPact.UNKNOWN);
         due("no such man", x.move(0, 11), PitPact.UNKNOWN);
+        due("man 0 is at the other", x.move(1, 0), PitPact.UNKNOWN);
         due("below -4", x.move(1, -5), PitPact.UNKNOWN);
         due("no such pit", x.move(2, -1), PitPact.UNKNOWN);
         due("no such pit below", x.move(-1, -1), PitPact.UNKNOWN);
@@ -876,6 +877,13 @@ public final class PitPactPromises {
         x.close(0);
         due("closed now", x.best(0), 2);
         due("with its BURDEN", x.best(1), 2 * 600 + 1000);
+        PitPact z = new PitPact();
+        z.pit(0, 0, 1, 101, 1);
+        z.set(5, 1);
+        z.set(2, 2);
+        due("better by 1 is better", z.best(0), 1);
+        z.set(2, 1);
+        due("no better: the first", z.best(0), 0);
         PitPact y = withPits(8);
         y.set(5, 5);
         y.set(3, 800);
