@@ -796,7 +796,8 @@ public final class PitPact {
             for (int i = 0; i < count; i++) {
                 if (isDigit(signs[i])) {
                     digits++;
-                    if (digits > MOST_DIGITS) {
+                    // on a full pile a number can not even begin, whatever would end it
+                    if (digits > MOST_DIGITS || height >= MOST_ON_PILE) {
                         return i;
                     }
                 } else {

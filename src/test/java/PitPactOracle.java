@@ -53,6 +53,9 @@ public final class PitPactOracle {
             while (i < signs.length()) {
                 char c = signs.charAt(i);
                 if (Character.isDigit(c)) {
+                    if (on == 5) {
+                        return i;
+                    }
                     int j = i;
                     while (j < signs.length() && Character.isDigit(signs.charAt(j))) {
                         j++;
@@ -63,7 +66,7 @@ public final class PitPactOracle {
                     if (j == signs.length()) {
                         return j;
                     }
-                    if (signs.charAt(j) != ',' || on == 5) {
+                    if (signs.charAt(j) != ',') {
                         return j;
                     }
                     on++;
@@ -613,8 +616,21 @@ public final class PitPactOracle {
         return expression(depth - 1) + expression(depth - 1) + "+-*<>=&|".charAt(random.nextInt(8));
     }
 
+    /** Mostly laid and seldom taken, so that a sixth on the pile is often begun. */
+    private static String heap() {
+        StringBuilder text = new StringBuilder();
+        for (int i = 3 + random.nextInt(6); i > 0; i--) {
+            text.append(expression(random.nextInt(6) == 0 ? 1 : 0));
+        }
+        String tail = "0123456789,+!a";
+        for (int i = random.nextInt(6); i > 0; i--) {
+            text.append(tail.charAt(random.nextInt(tail.length())));
+        }
+        return text.toString();
+    }
+
     private static void sayText() {
-        String text = expression(3);
+        String text = random.nextInt(6) == 0 ? heap() : expression(3);
         if (random.nextInt(3) == 0) {
             StringBuilder spoilt = new StringBuilder(text);
             String any = "aytkf0123456789,+-*<>=&|!bz";

@@ -336,7 +336,15 @@ public final class PitPactPromises {
             due("one for " + act, faultOf("a!" + act + "a"), 2);
         }
         due("a sixth", faultOf("aytkfa"), 5);
-        due("a sixth, a number, by its comma", faultOf("aytkf12,"), 7);
+        due("a sixth, a number, by its first digit", faultOf("aytkf12,"), 5);
+        due("a sixth behind a number", faultOf("aytk0,9"), 6);
+        due("a sixth, all numbers", faultOf("1,2,3,4,5,6,"), 10);
+        due("a sixth, ahead of a fifth digit", faultOf("aytkf12345,"), 5);
+        due("a sixth, ahead of what does not end it", faultOf("aytkf1a"), 5);
+        due("a fifth that ends early", faultOf("aytk9"), 5);
+        due("a fifth, then room again", faultOf("aytk1,+2,++++"), PitPact.NONE);
+        due("an act on a full pile", faultOf("aytkf!"), 6);
+        due("a comma on a full pile", faultOf("aytkf,"), 5);
         due("a fifth digit", faultOf("a12345,"), 5);
         due("not ended by a comma", faultOf("12a,"), 2);
         due("not ended by a comma but an act", faultOf("ay12+"), 4);
