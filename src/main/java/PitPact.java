@@ -1116,8 +1116,10 @@ public final class PitPact {
             System.arraycopy(other.depth, 0, depth, 0, MOST_PITS);
             System.arraycopy(other.inflows, 0, inflows, 0, MOST_PITS);
             System.arraycopy(other.level, 0, level, 0, MOST_PITS);
-            System.arraycopy(other.pumps, 0, pumps, 0, MOST_PITS);
             System.arraycopy(other.drowned, 0, drowned, 0, MOST_PITS);
+            for (int p = 0; p < MOST_PITS; p++) {
+                pumps[p] = other.pumps[p];
+            }
             basins = other.basins;
             System.arraycopy(other.wayA, 0, wayA, 0, MOST_WAYS);
             System.arraycopy(other.wayB, 0, wayB, 0, MOST_WAYS);
