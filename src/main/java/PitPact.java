@@ -845,38 +845,38 @@ public final class PitPact {
                 if (Text.isDigit(sign)) {
                     number = number * 10 + sign - '0';
                 } else {
-                    step(sign, man, wayToWork, number);
+                    lay(whatComesOf(sign, man, wayToWork, number));
                     number = 0;
                 }
             }
             return take();
         }
 
-        private void step(int sign, Man man, int wayToWork, int number) {
+        private long whatComesOf(int sign, Man man, int wayToWork, int number) {
             switch (sign) {
-                case 'a': lay(man.age); break;
-                case 'y': lay(man.years); break;
-                case 't': lay(man.trade); break;
-                case 'k': lay(asOne(man.kin)); break;
-                case 'f': lay(wayToWork); break;
-                case ',': lay(number); break;
-                case '!': lay(asOne(take() == 0)); break;
-                default: join(sign);
+                case 'a': return man.age;
+                case 'y': return man.years;
+                case 't': return man.trade;
+                case 'k': return asOne(man.kin);
+                case 'f': return wayToWork;
+                case ',': return number;
+                case '!': return asOne(take() == 0);
+                default: return joined(sign);
             }
         }
 
-        private void join(int sign) {
+        private long joined(int sign) {
             long upper = take();
             long lower = take();
             switch (sign) {
-                case '+': lay(lower + upper); break;
-                case '-': lay(lower - upper); break;
-                case '*': lay(lower * upper); break;
-                case '<': lay(asOne(lower < upper)); break;
-                case '>': lay(asOne(lower > upper)); break;
-                case '=': lay(asOne(lower == upper)); break;
-                case '&': lay(asOne(lower != 0 && upper != 0)); break;
-                default: lay(asOne(lower != 0 || upper != 0));
+                case '+': return lower + upper;
+                case '-': return lower - upper;
+                case '*': return lower * upper;
+                case '<': return asOne(lower < upper);
+                case '>': return asOne(lower > upper);
+                case '=': return asOne(lower == upper);
+                case '&': return asOne(lower != 0 && upper != 0);
+                default: return asOne(lower != 0 || upper != 0);
             }
         }
 
@@ -1174,6 +1174,8 @@ public final class PitPact {
     /** PRICES, one PLAN at a time, and the search for THE BEST one. */
     private static final class Plans {
         private static final int CHOICES = PLAN_YEARS + 1;
+        /** Eight PITS cost 8,000,000 in five years at most. */
+        private static final int ABOVE_ALL_COSTS = 1000000000;
 
         private final int[][] prices = new int[ROWS][PLAN_YEARS];
         private final int[] tons = new int[MOST_PITS];
@@ -1307,12 +1309,12 @@ public final class PitPact {
             if (wonAtLast < owed) {
                 return false;
             }
-            bestWorst = Integer.MAX_VALUE;
+            bestWorst = ABOVE_ALL_COSTS;
             fillLeast();
             for (int r = 0; r < ROWS; r++) {
                 paidAhead[0][r] = 0;
             }
-            choose(0);
+            choose(this, 0);
             return true;
         }
 
@@ -1335,23 +1337,27 @@ public final class PitPact {
         }
 
         /** Years are tried in order, and a later PLAN has to be better: so the first of the best is kept. */
-        private void choose(int pit) {
-            if (pit >= count) {
-                keepAsBest();
+        private static void choose(Plans plan, int pit) {
+            if (pit >= plan.count) {
+                plan.keepAsBest();
                 return;
             }
-            for (int year = 0; year <= lastChoice(pit); year++) {
-                if (mayClose(pit, year)) {
-                    years[pit] = year;
-                    for (int r = 0; r < ROWS; r++) {
-                        paidAhead[pit + 1][r] = paidAhead[pit][r] + costs[pit * CHOICES + year][r];
-                    }
-                    if (mayBeBetter(pit + 1)) {
-                        closeFrom(pit, year);
-                        choose(pit + 1);
-                        openAgain(pit, year);
+            for (int year = 0; year <= plan.lastChoice(pit); year++) {
+                if (plan.mayClose(pit, year)) {
+                    plan.pay(pit, year);
+                    if (plan.mayBeBetter(pit + 1)) {
+                        plan.closeFrom(pit, year);
+                        choose(plan, pit + 1);
+                        plan.openAgain(pit, year);
                     }
                 }
+            }
+        }
+
+        private void pay(int pit, int year) {
+            years[pit] = year;
+            for (int r = 0; r < ROWS; r++) {
+                paidAhead[pit + 1][r] = paidAhead[pit][r] + costs[pit * CHOICES + year][r];
             }
         }
 
